@@ -1568,7 +1568,9 @@ public final class YearRope {
         }
 
         void refuse() {
-            refuseAt(at);
+            if (fault == NONE) {
+                fault = at;
+            }
         }
 
         void refuseAt(int place) {

@@ -48,6 +48,8 @@ public final class BearTest {
         check.due("both bear nothing", 0, () -> x.share(0, 1, 5));
         check.due("the second has the rest", false, () -> x.shared(0, 1, 5));
         check.due("of nothing", true, () -> x.shared(0, 1, 0));
+        Check.law(x, "fail 19");
+        check.due("the second bears 1, the first nothing", 5, () -> x.share(1, 0, 5));
     }
 
     private static void holds(Check check) {
@@ -166,6 +168,8 @@ public final class BearTest {
         check.due("25 by 13 and 13", 3, x::fewest);
         x.hang(0, 999);
         check.due("too much", -1, x::fewest);
+        YearRope y = Check.shed(YARNS + ";rope 2 3 0 long 1;rope 0 2 3 long 1;rope 0 1 4 long 1;hang 0 16");
+        check.due("20 alone ahead of 8 and 8", 4, y::fewest);
     }
 
     private static void buys(Check check) {
@@ -205,5 +209,7 @@ public final class BearTest {
         check.due("two are broken", 3, () -> x.count(12));
         check.due("loose", 24, x::loose);
         check.due("skips: long 4, 5, 1", 12, x::skips);
+        YearRope y = Check.shed(YARNS + ";rope 0 1 2 long 4");
+        check.due("skips: the first", 1, y::skips);
     }
 }

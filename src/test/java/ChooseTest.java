@@ -7,6 +7,7 @@ public final class ChooseTest {
     public static void main(String[] args) {
         Check check = new Check("ChooseTest");
         best(check);
+        full(check);
         cheapest(check);
         can(check);
         most(check);
@@ -53,6 +54,46 @@ public final class ChooseTest {
         check.due("the trial rope is as long as the order", -1, () -> x.cheapest(2));
         Check.law(x, "bear 7 if long > 30");
         check.due("and bears by it: 0 2 4", 24, () -> x.cheapest(2));
+    }
+
+    /** As many yarns, ropes and orders as there can be, the strongest, each order for all and each rope for all. */
+    private static void full(Check check) {
+        String yarns = "yarn 30 long 200 rot 0 reign 5;yarn 30 long 200 rot 0 reign 5;yarn 30 long 200 rot 0 reign 5;"
+                + "yarn 30 long 200 rot 0 reign 5;yarn 30 long 200 rot 0 reign 5";
+        String ropes = "rope 0 1 2 long 4;rope 1 2 3 long 4;rope 2 3 4 long 4;rope 3 4 5 long 4;rope 4 5 6 long 4;"
+                + "rope 5 6 7 long 4;rope 6 7 8 long 4;rope 7 8 9 long 4";
+        String orders = "order 90 long 1 pay 9;order 90 long 2 pay 9;order 90 long 3 pay 9;order 90 long 4 pay 9";
+        YearRope x = Check.shed(yarns, yarns, ropes, orders, orders);
+        check.due("best", 12, () -> x.best(188));
+        check.due("best of the longest", -1, () -> x.best(199));
+        check.due("cheapest", 12, () -> x.cheapest(7));
+        check.due("can by ropes", 255, () -> x.can(false));
+        check.due("can by yarns", 255, () -> x.can(true));
+        check.due("most", 255, () -> x.most(false));
+        check.due("pay", 72, () -> x.most(true));
+        check.due("cuts: 1, 2 of the first and 1 of the second", 19, () -> x.cuts(7, false));
+        check.due("walks by four", 5, () -> x.walks(4));
+        check.due("walks by one", 20, () -> x.walks(1));
+        check.due("oakum", 120, () -> x.oakum(90, 0, 0));
+        check.due("none is sure", 0, () -> x.oakum(90, 0, 1));
+        check.due("each is in 36", 0, () -> x.oakum(90, 0, 2));
+        check.due("lasts", 634, () -> x.lasts(1));
+        check.due("weakest", 0, x::weakest);
+        check.due("skips", 255, x::skips);
+        check.due("loose", 255, x::loose);
+        check.due("buys all", 255, () -> x.buys(9999));
+        for (int i = 0; i < 8; i++) {
+            x.hang(i, 90);
+        }
+        check.due("fewest", 255, x::fewest);
+        check.due("all unravel", 255, () -> x.trial(4, false));
+        check.due("all loads fall", 720, () -> x.trial(4, true));
+        check.due("span", 8, () -> x.span(4, false));
+        check.due("uses of yarn 2", 7, () -> x.yarn(2, 5));
+        check.due("uses of yarn 9", 128, () -> x.yarn(9, 5));
+        check.due("loads", 720, () -> x.count(8));
+        check.due("picked", 7, () -> x.pick(7));
+        check.due("none can", 0, () -> x.can(false));
     }
 
     private static void can(Check check) {

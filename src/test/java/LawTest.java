@@ -9,6 +9,7 @@ public final class LawTest {
         orAndNot(check);
         wrongThings(check);
         depth(check);
+        longTexts(check);
         tooManyLines(check);
         check.end();
     }
@@ -81,6 +82,13 @@ public final class LawTest {
             Check.law(x, "wear 1 if " + word + "<" + (n == 999 ? "999" : n + 1) + ";wear 2 if " + word + ">" + (n - 1)
                     + ";wear 4 if " + word + " < " + n + ";wear 8 if " + n + " < " + word + ";wear 16 if " + n + " > " + word);
             check.due(word + " is " + n, n == 999 ? 2 : 3, () -> x.rope(0, 11));
+        }
+        x.lay(2, 0, 1, 1);
+        x.lay(1, 2, 0, 1);
+        Check.law(x, "wear 1 if weak > 2 and weak < 4;wear 2 if strong > 7 and strong < 9;wear 4 if reigns > 1;wear 8 if rot > 2");
+        for (int rope = 0; rope < 3; rope++) {
+            int r = rope;
+            check.due("weak, strong, reigns, rot whatever stands first " + r, 15, () -> x.rope(r, 11));
         }
         Check.law(x, "wear 1 if winter;wear 2 if whipped");
         check.due("season 2, not whipped", 0, () -> x.rope(0, 11));
@@ -163,6 +171,22 @@ public final class LawTest {
         check.wrongLaw(x, "wear 1 if not (not (not ( (", 26);
         check.due("side by side is not within", 1, () -> Check.law(x,
                 "wear 1 if not not not not not not winter and ((((((winter)))))) or not (not (not (1<2)))"));
+    }
+
+    private static void longTexts(Check check) {
+        YearRope x = shed();
+        String nest = "2<1 or 1<2 and (".repeat(6);
+        Check.law(x, "wear 1 if " + nest + "2<1 or 1<2 and 2<1+1+1" + ")".repeat(6));
+        check.due("as much stands open as can", 1, () -> x.rope(0, 11));
+        Check.law(x, "wear 1 if " + nest + "2<1 or 1<2 and 3<1+1+1" + ")".repeat(6));
+        check.due("and fails by its innermost part", 0, () -> x.rope(0, 11));
+        String full = "wear 7 if " + "1+".repeat(192) + "1<194";
+        check.due("its bytes", 399, full::length);
+        Check.law(x, full + " ");
+        check.due("a sum of 193", 7, () -> x.rope(0, 11));
+        Check.law(x, full.replace("<194", "<193"));
+        check.due("is not below 193", 0, () -> x.rope(0, 11));
+        check.wrongLaw(x, full + ";", 400);
     }
 
     private static void tooManyLines(Check check) {

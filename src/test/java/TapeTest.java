@@ -54,6 +54,8 @@ public final class TapeTest {
         check.due("all 400 are there", true, () -> x.end(400));
         check.due("one byte less", true, () -> x.end(399));
         check.due("feed at 399", -1, () -> x.feed(1, 2, 3, 4, 5));
+        check.due("to 381", true, () -> x.end(381));
+        check.due("feed at 381", -1, () -> x.feed(1, 2, 3, 4, 5));
         check.due("to 380", true, () -> x.end(380));
         check.due("feed at 380", 400, () -> x.feed(0x20202020, 0x20202020, 0x20202020, 0x20202020, 0x20202020));
         check.due("a text of 400 blanks", 1, x::walk);
