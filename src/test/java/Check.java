@@ -11,6 +11,8 @@ final class Check {
     private final String test;
     private int checked;
     private int wrong;
+    private String sentence;
+    private int checkedAhead;
 
     Check(String test) {
         this.test = test;
@@ -29,9 +31,31 @@ final class Check {
         checked++;
         String got = outcome(call);
         if (!got.equals(String.valueOf(want))) {
-            wrong++;
-            System.out.println(test + ": " + what + " answered " + got + ", due is " + want);
+            blame(what + " answered " + got + ", due is " + want);
         }
+    }
+
+    private void blame(String fault) {
+        wrong++;
+        System.out.println(test + ": " + (sentence == null ? "" : "'" + sentence + "': ") + fault);
+    }
+
+    /** What is tried from here on is this sentence, which stands so in the document, and nowhere else in it. */
+    void sentence(String quote) {
+        endSentence();
+        sentence = quote;
+        checkedAhead = checked;
+        int places = Doc.placesOf(quote);
+        if (places != 1) {
+            blame("stands in the document " + places + " times");
+        }
+    }
+
+    private void endSentence() {
+        if (sentence != null && checked == checkedAhead) {
+            blame("nothing tries it");
+        }
+        sentence = null;
     }
 
     void noIndex(String what, Call call) {
@@ -55,6 +79,7 @@ final class Check {
     }
 
     void end() {
+        endSentence();
         System.out.println(test + ": " + checked + " checked, " + wrong + " wrong");
         if (wrong != 0 || checked == 0) {
             System.exit(1);
