@@ -7,11 +7,13 @@ public final class ActBoundsTest {
     public static void main(String[] args) {
         ActBoundsTest test = new ActBoundsTest();
         test.laid();
+        test.laidInPlaceOfAnother();
         test.tarred();
         test.doubled();
         test.cut();
         test.hung();
         test.met();
+        test.metOfEight();
         test.picked();
         test.actsThatChangeNothing();
         test.latestSixty();
@@ -47,6 +49,22 @@ public final class ActBoundsTest {
         bounds.answers(0, "a yarn of which nothing is left is there still", Bounds.after(Scenes::three, x -> x.lay(2, 0, 1, 30)),
                 x -> x.yarn(1, 1));
         bounds.answers(13, "and BEARS", Bounds.after(Scenes::three, x -> x.lay(2, 0, 1, 30)), x -> x.rope(0, 10));
+    }
+
+    /** Where a rope was picked that was all that a rope can be, the next one is as new as the first. */
+    private void laidInPlaceOfAnother() {
+        Bounds.Scene picked = Bounds.after(() -> {
+            YearRope x = worn(7);
+            Check.walk(x, "tar 0 4;whip 0;hang 0 6");
+            return x;
+        }, x -> x.twice(0), x -> x.pick(0), x -> x.lay(2, 1, 0, 3));
+        Bounds.Scene broken = Bounds.after(() -> told("hang 0 14"), x -> x.seasons(1), x -> x.pick(0), x -> x.lay(2, 1, 0, 3));
+        int[] fresh = {2, 1, 0, 3, 0, 0, 0, 1, 0, 0};
+        for (int what = 0; what < fresh.length; what++) {
+            int w = what;
+            bounds.answers(fresh[w], "what " + w + " of one laid in place of another", picked, x -> x.rope(0, w));
+            bounds.answers(fresh[w], "what " + w + " of one laid in place of a BROKEN one", broken, x -> x.rope(0, w));
+        }
     }
 
     private void tarred() {
@@ -105,6 +123,11 @@ public final class ActBoundsTest {
             bounds.answers(old[w], "the old one's what " + w, Bounds.after(marked, x -> x.cut(0, 7)), x -> x.rope(0, w));
             bounds.answers(piece[w], "the new one's what " + w, Bounds.after(marked, x -> x.cut(0, 7)), x -> x.rope(1, w));
         }
+        for (int what = 0; what < 3; what++) {
+            int w = what;
+            bounds.answers(2 - w, "the new one's YARNS as told " + w,
+                    Bounds.after(() -> Check.shed(Scenes.THREE + ";rope 2 1 0 long 9"), x -> x.cut(0, 7)), x -> x.rope(1, w));
+        }
         bounds.answers(1, "1 of 20", Bounds.after(Scenes::oneRope, x -> x.cut(0, 1)), x -> x.rope(1, 3));
         bounds.answers(19, "19 are left", Bounds.after(Scenes::oneRope, x -> x.cut(0, 1)), x -> x.rope(0, 3));
         bounds.answers(19, "19 of 20", Bounds.after(Scenes::oneRope, x -> x.cut(0, 19)), x -> x.rope(1, 3));
@@ -151,14 +174,25 @@ public final class ActBoundsTest {
         }
     }
 
+    private void metOfEight() {
+        Bounds.Scene eight = () -> Check.shed(Scenes.THREE + ";rope 0 1 2 long 20", Scenes.lines("order 1 long 1 pay 1", 7)
+                + ";order 2 long 2 pay 2");
+        for (int order = 0; order < 8; order++) {
+            int o = order;
+            bounds.answers(o == 7 ? 1 : 2, "the last of eight then, met " + o, Bounds.after(eight, x -> x.meet(o, 0)),
+                    x -> x.order(6, 2));
+        }
+    }
+
     private void picked() {
         check.sentence("a ROPE is PICKED apart: it is gone (those behind it have a number less);");
-        Bounds.Scene ropes = () -> Check.shed(Scenes.THREE + ";rope 0 1 2 long 1;rope 0 1 2 long 2;rope 0 1 2 long 3");
+        Bounds.Scene ropes = () -> Check.shed(Scenes.THREE + ";rope 2 1 0 long 1;rope 0 1 2 long 2;rope 1 2 0 long 3");
         int[][] left = {{0, 2, 3}, {1, 1, 3}, {2, 1, 2}};
         for (int[] row : left) {
             bounds.answers(2, "how many are left", ropes, x -> x.pick(row[0]));
             bounds.answers(row[1], "the first then", Bounds.after(ropes, x -> x.pick(row[0])), x -> x.rope(0, 3));
             bounds.answers(row[2], "the second then", Bounds.after(ropes, x -> x.pick(row[0])), x -> x.rope(1, 3));
+            bounds.answers(row[1] % 2 * 2, "the first one's first YARN then", Bounds.after(ropes, x -> x.pick(row[0])), x -> x.rope(0, 0));
             bounds.answers("throws IndexOutOfBoundsException", "no third", Bounds.after(ropes, x -> x.pick(row[0])),
                     x -> x.rope(2, 3));
             bounds.answers(24, "its FATHOMS are not back", Bounds.after(ropes, x -> x.pick(row[0])), x -> x.yarn(1, 1));

@@ -66,6 +66,7 @@ public final class BearBoundsTest {
         bounds.answers(-1, "BROKEN ahead", () -> rope(3, "hang 0 6"), x -> x.holds(0, true));
         bounds.answers(2, "just ahead of that", () -> ruled(3, "wear 0;fail 9 if long < 2", "hang 0 6"), x -> x.holds(0, true));
         bounds.answers(-1, "as it breaks", () -> ruled(3, "wear 0;fail 9 if long < 1", "hang 0 6"), x -> x.holds(0, true));
+        bounds.answers(3, "winter comes", () -> ruled(90, "fail 2 if winter;wear 0", "hang 0 6"), x -> x.holds(0, true));
         bounds.leaves(-1, "nothing stays", Scenes::busy, x -> x.holds(0, true));
     }
 
@@ -142,7 +143,20 @@ public final class BearBoundsTest {
         bounds.answers(-1, "40 by none", () -> rope(9, ropes + ";hang 2 40"), YearRope::fewest);
         bounds.answers(6, "a BROKEN one does not count",
                 Bounds.after(() -> rope(1, ropes + ";hang 2 13;hang 1 12"), x -> x.seasons(1), x -> x.hang(2, 14)), x -> x.fewest());
+        bounds.answers(4, "one ahead of two of less bits", Bounds.after(() -> rope(9, ropes), x -> x.hang(0, 20), x -> x.twice(2)),
+                YearRope::fewest);
+        bounds.answers(255, "720 by all eight", () -> fullHung(90), YearRope::fewest);
+        bounds.answers(-1, "721 by none", () -> fullHung(91), YearRope::fewest);
         bounds.answers(-1, "1 by a rope that BEARS nothing", () -> ruled(9, "fail 99", "hang 0 1"), YearRope::fewest);
+    }
+
+    /** Eight ropes that BEAR 90 each, with 90 on all of them but the last. */
+    private static YearRope fullHung(int last) {
+        YearRope x = Scenes.full();
+        for (int rope = 0; rope < 8; rope++) {
+            x.hang(rope, rope == 7 ? last : 90);
+        }
+        return x;
     }
 
     /** The price of a rope of such yarns, of REIGN 1 each, so LONG. */
@@ -179,6 +193,9 @@ public final class BearBoundsTest {
         }
         bounds.answers(0, "no ROPES", Scenes::three, x -> x.buys(9999));
         bounds.answers(0, "none BEARS", () -> ruled(10, "fail 99", ropes), x -> x.buys(9999));
+        // each of the eight costs 285 times 4 by 10
+        bounds.answers(255, "all eight", Scenes::full, x -> x.buys(8 * 114));
+        bounds.answers(127, "seven of eight", Scenes::full, x -> x.buys(8 * 114 - 1));
         bounds.answers(6, "a BROKEN one is not bought", Bounds.after(() -> rope(1, ropes), x -> x.seasons(1)), x -> x.buys(9999));
         bounds.answers(1, "without COINS what costs nothing", () -> Check.shed("yarn 1 long 9 rot 0 reign 0;yarn 1 long 9 rot 0 "
                 + "reign 0;yarn 1 long 9 rot 0 reign 0;rope 0 1 2 long 1;rope 0 1 2 long 2"), x -> x.buys(0));
@@ -198,6 +215,9 @@ public final class BearBoundsTest {
             bounds.answers(uses[n], "USES of yarn " + n + ", the first BROKEN", Bounds.after(four, x -> x.seasons(1)),
                     x -> x.yarn(n, 5));
         }
+        bounds.answers(8, "SAME of the last of eight", Scenes::full, x -> x.rope(7, 13));
+        bounds.answers(0, "SAME, two YARNS of three", () -> rope(9, "yarn 9 long 9 rot 0 reign 0;rope 0 1 3 long 9"),
+                x -> x.rope(0, 13));
         check.sentence("SKIPS: ROPES not BROKEN, without a LOAD, LONG 2 to 5, as bits. UNWHIPPED ones, as bits.");
         for (int fathoms = 1; fathoms <= 7; fathoms++) {
             int f = fathoms;

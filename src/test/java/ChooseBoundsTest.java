@@ -13,6 +13,7 @@ public final class ChooseBoundsTest {
         test.most();
         test.cuts();
         test.walks();
+        test.walksOfUnlike();
         test.share();
         test.oakum();
         test.check.end();
@@ -43,6 +44,9 @@ public final class ChooseBoundsTest {
         for (String fact : facts) {
             bounds.answers(14, fact + " is 0", () -> under("bear 1 if " + fact + " < 1"), x -> x.bears(0, 1, 2, 5));
         }
+        bounds.answers(13, "behind what another WOULD BEAR", Bounds.after(() -> Check.shed(Scenes.THREE + ";rope 2 1 0 long 9;tar 0 5;"
+                + "hang 0 5"), x -> Check.law(x, "bear 1 if tar + worn + load > 0 or plies > 1 or whipped"), x -> x.seasons(3),
+                x -> x.would(0, 1), x -> x.would(0, 2)), x -> x.bears(0, 1, 2, 5));
         bounds.answers(13, "not WHIPPED", () -> under("bear 1 if whipped"), x -> x.bears(0, 1, 2, 5));
         bounds.answers(14, "PLIES 1", () -> under("bear 1 if plies > 0 and plies < 2"), x -> x.bears(0, 1, 2, 5));
         bounds.answers(14, "LONG 5", () -> under("bear 1 if long > 4 and long < 6"), x -> x.bears(0, 1, 2, 5));
@@ -179,6 +183,21 @@ public final class ChooseBoundsTest {
         return x;
     }
 
+    private void walksOfUnlike() {
+        String orders = "order 1 long 7 pay 0;order 1 long 6 pay 0;order 1 long 5 pay 0;order 1 long 4 pay 0;"
+                + "order 1 long 4 pay 0;order 1 long 3 pay 0;order 1 long 3 pay 0;order 1 long 10 pay 0";
+        int[] hours = {42, 21, 14, 11, 10};
+        for (int men = 1; men <= 5; men++) {
+            int m = men;
+            bounds.answers(hours[m - 1], m + " men, 42 hours of eight ORDERS", () -> Check.shed(orders), x -> x.walks(m));
+        }
+        bounds.answers(0, "no ORDERS, behind MOST of them", Bounds.after(Scenes::empty, x -> x.most(false)), x -> x.walks(2));
+        bounds.answers(3, "1 and 2 against 3", () -> Check.shed("order 1 long 1 pay 0;order 1 long 3 pay 0;order 1 long 2 pay 0"),
+                x -> x.walks(2));
+        bounds.answers(3, "the odd one alone", () -> Check.shed("order 1 long 3 pay 0;order 1 long 1 pay 0;order 1 long 2 pay 0"),
+                x -> x.walks(2));
+    }
+
     private void share() {
         check.sentence("SHARE of a LOAD by two ROPES: by what they BEAR: the first one has LOAD times BEARS of it by BEARS of both "
                 + "together, rounded down (0, if both BEAR nothing), the second one the rest; whether neither has more than it "
@@ -226,6 +245,10 @@ public final class ChooseBoundsTest {
         bounds.answers(0, "none is without any", () -> oakums(1, 2, 3), x -> x.oakum(7, 0, 1));
         bounds.answers(120, "all of ten", Scenes::full, x -> x.oakum(90, 0, 0));
         bounds.answers(0, "none is in all", Scenes::full, x -> x.oakum(90, 0, 1));
+        Bounds.Scene rotten = () -> Check.shed("yarn 1 long 9 rot 1 reign 0;yarn 2 long 9 rot 3 reign 0;yarn 3 long 9 rot 5 reign 0");
+        bounds.answers(1, "ROT 1, 3 and 5", rotten, x -> x.oakum(6, 9, 0));
+        bounds.answers(0, "ROT 8", rotten, x -> x.oakum(6, 8, 0));
+        bounds.answers(0, "ROT 10", rotten, x -> x.oakum(6, 10, 0));
         bounds.answers(1, "YARNS that are used up, too", Bounds.after(Scenes::three, x -> x.lay(0, 1, 2, 30)),
                 x -> x.oakum(16, 3, 0));
         check.sentence("ASK: the YARN that is in as near to the half of them as can be (the greater part of them, with it or "
@@ -234,6 +257,9 @@ public final class ChooseBoundsTest {
         bounds.answers(-1, "one of them", () -> oakums(1, 2, 3), x -> x.oakum(6, 0, 2));
         bounds.answers(2, "two of them: 0 1 2 and 0 1 3", () -> oakums(1, 2, 3, 3), x -> x.oakum(6, 0, 2));
         bounds.answers(3, "the two SURE are SURE", () -> oakums(1, 2, 3, 3), x -> x.oakum(6, 0, 1));
+        Bounds.Scene asked = Bounds.after(() -> oakums(1, 2, 3, 3), x -> x.oakum(6, 0, 2), x -> x.oakum(6, 0, 1));
+        bounds.answers(3, "the two SURE, asked once more", asked, x -> x.oakum(6, 0, 1));
+        bounds.answers(2, "the one to ask, asked once more", asked, x -> x.oakum(6, 0, 2));
         bounds.answers(0, "four of four: each in three", () -> oakums(2, 2, 2, 2), x -> x.oakum(6, 0, 2));
         // 1 2 3, 1 2 4, 1 3 4 and 2 3 4 fit, 0 is in none: 3 against 1 is nearer to the half than 4 against 0
         bounds.answers(1, "none of 0", () -> oakums(9, 2, 2, 2, 2), x -> x.oakum(6, 0, 2));

@@ -15,6 +15,7 @@ public final class FaultBoundsTest {
         test.oneTooDeep();
         test.oneTooMany();
         test.moreMustCome();
+        test.endsEverywhere();
         test.firstOfSeveral();
         test.nothingStays();
         test.check.end();
@@ -27,6 +28,10 @@ public final class FaultBoundsTest {
         bounds.wrongWalk(Scenes::oneRope, "^galex 5");
         bounds.wrongWalk(Scenes::oneRope, "^xgale 5");
         bounds.wrongWalk(Scenes::oneRope, "^gal e 5");
+        bounds.wrongWalk(Scenes::oneRope, "^galea 5");
+        bounds.wrongWalk(Scenes::oneRope, "^galez 5");
+        bounds.wrongWalk(Scenes::oneRope, "^agale 5");
+        bounds.wrongWalk(Scenes::oneRope, "^zgale 5");
         bounds.wrongWalk(Scenes::oneRope, "^gal");
         bounds.wrongWalk(Scenes::oneRope, "^galedamp 5");
         bounds.rightLaw(Scenes::oneRope, "bear5if not(weak<3)and winter or whipped", 1);
@@ -165,6 +170,30 @@ public final class FaultBoundsTest {
         bounds.wrongLaw(Scenes::oneRope, "bear 5 if (winter   ^");
         bounds.wrongWalk(Scenes::oneRope, " ".repeat(396) + "gale^");
         bounds.wrongLaw(Scenes::oneRope, "bear 5;" + " ".repeat(393) + "^");
+    }
+
+    /** Where each thing could stand the text ends: at 400 bytes, and ahead of bytes that were fed but are cut off. */
+    private void endsEverywhere() {
+        String[] walks = {"yarn", "yarn 5", "yarn 5 long", "rope", "rope 0", "rope 0 1 2", "order 5", "hang", "hang 0", "whip", "gale",
+            "gale 5;"};
+        for (String walk : walks) {
+            bounds.wrongWalk(Scenes::oneRope, walk + " ".repeat(400 - walk.length()) + "^");
+        }
+        String[] laws = {"bear", "bear 5;", "bear 5 if", "bear 5 if not", "bear 5 if (", "bear 5 if (winter", "bear 5 if worn",
+            "bear 5 if worn +", "bear 5 if worn <", "bear 5 if winter and", "bear 5 if winter or"};
+        for (String law : laws) {
+            bounds.wrongLaw(Scenes::oneRope, law + " ".repeat(400 - law.length()) + "^");
+        }
+        String[][] cut = {{"bear 5", ";"}, {"bear 5 if", "(winter)"}, {"bear 5 if worn", "<3"}, {"bear 5 if (winter", ")"},
+            {"bear 5 if worn", "+3<4"}, {"bear 5", "5"}, {"bear 5 if winter", "s"}};
+        for (String[] text : cut) {
+            YearRope x = Scenes.empty();
+            Check.feed(x, text[0] + text[1]);
+            x.end(text[0].length());
+            boolean right = text[0].equals("bear 5") || text[0].endsWith("if winter");
+            check.due("'" + text[0] + "', ahead of '" + text[1] + "'", right ? "1" : "throws IllegalArgumentException", x::law);
+            check.due("its fault", right ? -1 : text[0].length(), x::fault);
+        }
     }
 
     private void firstOfSeveral() {

@@ -10,6 +10,7 @@ public final class LawBoundsTest {
     public static void main(String[] args) {
         LawBoundsTest test = new LawBoundsTest();
         test.linesOfTheLaw();
+        test.lawsInPlaceOfOthers();
         test.grammar();
         test.numbers();
         test.factsOfItsYarns();
@@ -51,12 +52,26 @@ public final class LawBoundsTest {
         bounds.answers(13, "nothing by an empty law", () -> under(""), x -> x.rope(0, 10));
     }
 
+    private void lawsInPlaceOfOthers() {
+        String[] laws = {"wear 2 if " + TRUE + ";wear 1", "wear 4 if " + FALSE + " or " + TRUE, "wear 8 if " + FALSE + ";wear 16"};
+        int[] wears = {3, 4, 16};
+        YearRope x = Scenes.oneRope();
+        int[] row = {0, 1, 2, 0, 2, 2, 1, 1, 0, 0, 2, 1, 0};
+        for (int now : row) {
+            // each law behind each other one, and behind each by two
+            Check.law(x, laws[now]);
+            check.due("law " + now + " alone", wears[now], () -> x.rope(0, 11));
+        }
+    }
+
     private void grammar() {
         check.sentence("bear N [ if C ] | fail N [ if C ] | wear N [ if C ].");
         for (String kind : new String[] {"bear", "fail", "wear"}) {
             bounds.rightLaw(Scenes::empty, kind + " 5", 1);
             bounds.rightLaw(Scenes::empty, kind + " 5 if winter", 1);
             bounds.wrongLaw(Scenes::busy, kind + " ^if winter");
+            bounds.wrongLaw(Scenes::busy, "^5 if winter");
+            bounds.wrongLaw(Scenes::busy, kind + " 5;^5");
             bounds.wrongLaw(Scenes::busy, kind + " 5 ^winter");
             bounds.wrongLaw(Scenes::busy, kind + " 5 if ^");
             bounds.wrongLaw(Scenes::busy, kind + " 5 if winter ^if winter");
@@ -75,6 +90,16 @@ public final class LawBoundsTest {
         bounds.wrongLaw(Scenes::busy, "wear 1 if (^)");
         bounds.wrongLaw(Scenes::busy, "wear 1 if (winter^");
         bounds.wrongLaw(Scenes::busy, "wear 1 if winter^)");
+        for (String word : new String[] {"whipped", "winter"}) {
+            for (String condition : new String[] {"#", "# and " + TRUE, "# or " + FALSE, "not not #"}) {
+                bounds.answers(1, word + " in " + condition, () -> whippedInWinter(condition.replace("#", word)), x -> x.rope(0, 11));
+                failsToHold(condition.replace("#", word));
+                bounds.answers(0, "not " + condition, () -> whippedInWinter("not (" + condition.replace("#", word) + ")"),
+                        x -> x.rope(0, 11));
+            }
+            bounds.answers(0, "not " + word, () -> whippedInWinter("not " + word), x -> x.rope(0, 11));
+            holds("not " + word);
+        }
         check.sentence("SUM < SUM | SUM > SUM. SUM: PART { + PART }; PART: NUMBER | weak |");
         holds("12 < 13");
         failsToHold("13 < 13");
@@ -88,6 +113,14 @@ public final class LawBoundsTest {
         bounds.wrongLaw(Scenes::busy, "wear 1 if worn + ^< 3");
         bounds.wrongLaw(Scenes::busy, "wear 1 if worn < 3 ^> 2");
         bounds.wrongLaw(Scenes::busy, "wear 1 if worn < ^(3)");
+    }
+
+    private static YearRope whippedInWinter(String condition) {
+        YearRope x = Scenes.oneRope();
+        x.whip(0);
+        x.seasons(3);
+        Check.law(x, "wear 1 if " + condition);
+        return x;
     }
 
     private void numbers() {

@@ -59,6 +59,7 @@ final class Picture {
     private void stateAndPast() {
         stateNow();
         int acts = x.count(14);
+        tell(acts);
         for (int i = 0; i < acts; i++) {
             tell(" undone " + x.undo());
             stateNow();
@@ -70,7 +71,7 @@ final class Picture {
     }
 
     private void stateNow() {
-        for (int what = 0; what < 15; what++) {
+        for (int what = 0; what < 14; what++) {
             tell(x.count(what));
         }
         things();

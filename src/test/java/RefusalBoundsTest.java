@@ -65,6 +65,8 @@ public final class RefusalBoundsTest {
         bounds.refuses(STATE, "meet: BROKEN", Scenes::busy, x -> x.meet(1, 1));
         bounds.refuses(INDEX, "share: none, both are one, LOAD is none", Scenes::busy, x -> x.share(3, 3, -1));
         bounds.refuses(INDEX, "share: no second one, LOAD is none", Scenes::busy, x -> x.share(0, 3, -1));
+        bounds.refuses(INDEX, "share: no first one, LOAD is none", Scenes::busy, x -> x.share(3, 0, -1));
+        bounds.refuses(INDEX, "shared: no first one, LOAD is none", Scenes::busy, x -> x.shared(3, 0, -1));
         bounds.refuses(INDEX, "shared: none, both are one, LOAD is none", Scenes::busy, x -> x.shared(3, 3, -1));
         bounds.refuses(INDEX, "shared: no second one, LOAD is none", Scenes::busy, x -> x.shared(0, 3, 10000));
     }
@@ -153,6 +155,12 @@ public final class RefusalBoundsTest {
             String answer = Check.outcome(() -> ask.of(Scenes.busy()));
             bounds.leaves(answer, "ask " + i, Scenes::busy, ask);
             check.due("ask " + i + " throws", false, () -> answer.startsWith("throws"));
+        }
+        YearRope x = Scenes.busy();
+        for (int i = 0; i < 2 * asks.length; i++) {
+            // all in a row, and then once more the other way round
+            Bounds.Call ask = asks[i < asks.length ? i : 2 * asks.length - 1 - i];
+            check.due("ask " + i + ", behind others", Check.outcome(() -> ask.of(Scenes.busy())), () -> ask.of(x));
         }
     }
 

@@ -170,12 +170,15 @@ public final class UndoBoundsTest {
             x -> readThere(x, "bear 9;wear 9 if winter", false), x -> readThere(x, "", false), YearRope::undo};
         for (int i = 0; i < between.length; i++) {
             Bounds.Call call = between[i];
-            bounds.answers(Picture.state(forgotten(kept.make())), "all is as it was kept ahead of call " + i, kept, x -> {
+            bounds.answers(Picture.state(Scenes.busy()), "all is as it was kept ahead of call " + i, kept, x -> {
                 Check.outcome(() -> call.of(x));
                 x.back();
                 return Picture.state(x);
             });
         }
+        Bounds.Scene lawless = Bounds.after(() -> kept(Scenes.oneRope()), x -> Check.law(x, "wear 5;bear 5"), YearRope::back);
+        bounds.answers(-1, "no LAW: its LINES", lawless, x -> x.count(4));
+        bounds.answers(1, "no LAW: WEARS by", lawless, x -> x.rope(0, 11));
         bounds.answers(12, "texts of the walk: two more can come", Scenes::twelveTexts, x -> {
             x.back();
             Check.walk(x, "");
@@ -186,12 +189,6 @@ public final class UndoBoundsTest {
     private static Object readThere(YearRope x, String text, boolean walk) {
         x.end(0);
         return walk ? Check.walk(x, text) : Check.law(x, text);
-    }
-
-    /** Behind going back no act is remembered, all else being as it is. */
-    private static YearRope forgotten(YearRope x) {
-        x.back();
-        return x;
     }
 
     private void whatTheImageDoesNotHold() {

@@ -67,7 +67,7 @@ public final class WalkBoundsTest {
         }
     }
 
-    /** Without a thing, or with another in its place, a line is wrong there; ended ahead of it, at the text's length. */
+    /** With another thing in its place, a line is wrong there; ended ahead of it, at the text's length. */
     private void eachThingMissing(String[] things) {
         StringBuilder ahead = new StringBuilder();
         for (int i = 0; i < things.length; i++) {
@@ -77,8 +77,20 @@ public final class WalkBoundsTest {
                 bounds.wrongWalk(Scenes::oneRope, ahead + "^");
                 bounds.wrongWalk(Scenes::oneRope, ahead + "^" + things[0]);
             }
+            if (i + 1 < things.length && !Character.isDigit(things[i].charAt(0))) {
+                bounds.wrongWalk(Scenes::oneRope, ahead + "^" + things[i + 1]);
+                bounds.wrongWalk(Scenes::oneRope, ahead + "^" + rest(things, i + 1));
+            }
             ahead.append(things[i]).append(' ');
         }
+    }
+
+    private static String rest(String[] things, int from) {
+        StringBuilder text = new StringBuilder();
+        for (int i = from; i < things.length; i++) {
+            text.append(things[i]).append(' ');
+        }
+        return text.toString();
     }
 
     private void tarOfAText() {
@@ -145,6 +157,10 @@ public final class WalkBoundsTest {
             bounds.rightWalk(firstBroken, "rope 0 1 2 long 1;" + line.replace("#", "2"), 1,
                     x -> x.rope(2, 4) + x.rope(2, 6) + x.rope(2, 9));
             bounds.wrongWalk(firstBroken, line.replace("#", "^2") + ";rope 0 1 2 long 1");
+        }
+        for (String line : lines) {
+            bounds.rightWalk(Scenes::full, line.replace("#", "7"), 1, x -> x.rope(7, 4) + x.rope(7, 6) + x.rope(7, 9));
+            bounds.wrongWalk(Scenes::full, line.replace("#", "^8"));
         }
         bounds.walkNumber(firstBroken, "hang 1 #", 0, 999, x -> x.rope(1, 9));
     }
