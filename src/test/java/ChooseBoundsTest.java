@@ -158,6 +158,7 @@ public final class ChooseBoundsTest {
         bounds.answers(0, "without PAY none is the least", () -> orders("order 1 long 1 pay 0"), x -> x.cuts(0, false));
         bounds.answers(9, "what hangs on it does not count", () -> orders("order 13 long 20 pay 9;hang 0 13"),
                 x -> x.cuts(0, true));
+        bounds.answers(1 | 2 | 16, "LONG 4 of eight", Scenes::full, x -> x.cuts(7, false));
         bounds.answers(0, "no ORDERS", Scenes::oneRope, x -> x.cuts(0, false));
         bounds.answers(0, "no PAY", Scenes::oneRope, x -> x.cuts(0, true));
     }
@@ -244,6 +245,7 @@ public final class ChooseBoundsTest {
         bounds.answers(7, "all three are SURE", () -> oakums(1, 2, 3), x -> x.oakum(6, 0, 1));
         bounds.answers(0, "none is without any", () -> oakums(1, 2, 3), x -> x.oakum(7, 0, 1));
         bounds.answers(120, "all of ten", Scenes::full, x -> x.oakum(90, 0, 0));
+        bounds.answers(0, "all of ten are in as many", Scenes::full, x -> x.oakum(90, 0, 2));
         bounds.answers(0, "none is in all", Scenes::full, x -> x.oakum(90, 0, 1));
         Bounds.Scene rotten = () -> Check.shed("yarn 1 long 9 rot 1 reign 0;yarn 2 long 9 rot 3 reign 0;yarn 3 long 9 rot 5 reign 0");
         bounds.answers(1, "ROT 1, 3 and 5", rotten, x -> x.oakum(6, 9, 0));

@@ -79,6 +79,11 @@ public final class LawBoundsTest {
         check.sentence("C: ALL { or ALL }; ALL: ATOM { and ATOM }; ATOM: not ATOM | ( C ) | whipped | winter |");
         holds(TRUE + " or " + TRUE + " and " + FALSE);
         failsToHold("(" + TRUE + " or " + TRUE + ") and " + FALSE);
+        failsToHold(TRUE + " and (" + FALSE + ")");
+        failsToHold(TRUE + " and (" + FALSE + " or " + FALSE + ")");
+        holds(TRUE + " and (" + FALSE + " or " + TRUE + ")");
+        holds(FALSE + " or (" + TRUE + ")");
+        failsToHold(FALSE + " or (" + TRUE + " and " + FALSE + ")");
         failsToHold("not " + TRUE + " and " + FALSE);
         failsToHold("not " + FALSE + " and " + FALSE);
         holds("not (" + FALSE + " and " + FALSE + ")");

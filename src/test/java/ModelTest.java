@@ -1,9 +1,14 @@
 import java.util.Random;
 
-/** Long runs of drawn calls on YearRope and on the model: every answer must be the same. */
+/**
+ * Long runs of drawn calls on YearRope and on the model: every answer must be the same. In some runs ropes break till
+ * THE LOG is more than full, some go on to the last SEASON.
+ */
 public final class ModelTest {
 
     private static final int RUNS = 1500;
+    private static final int BREAKING_RUNS = 150;
+    private static final int AGED_RUNS = 150;
     private static final int CALLS = 500;
 
     private final Random draws;
@@ -24,6 +29,17 @@ public final class ModelTest {
         for (int run = 0; run < RUNS; run++) {
             new ModelTest(run, check).go();
         }
+        int fullLogs = 0;
+        for (int run = RUNS; run < RUNS + BREAKING_RUNS; run++) {
+            ModelTest test = new ModelTest(run, check);
+            test.breakMany();
+            fullLogs += test.m.count(10) > 60 ? 1 : 0;
+        }
+        int logs = fullLogs;
+        check.due("some logs are more than full", true, () -> logs > BREAKING_RUNS / 2);
+        for (int run = RUNS + BREAKING_RUNS; run < RUNS + BREAKING_RUNS + AGED_RUNS; run++) {
+            new ModelTest(run, check).growOld();
+        }
         check.end();
     }
 
@@ -40,6 +56,56 @@ public final class ModelTest {
             } else if (kind < 7) {
                 tell(draws.nextInt(3) > 0 ? Texts.law(draws) : Texts.spoilt(draws, Texts.law(draws)), false);
             } else if (kind < 45) {
+                act();
+            } else {
+                ask();
+            }
+        }
+    }
+
+    /** Rounds of ropes that are laid, loaded with too much, broken and picked, and what the log tells of them. */
+    private void breakMany() {
+        tell(fullWalk(true), true);
+        tell(Scenes.lines("yarn 9 long 200 rot 3 reign 1", 2), true);
+        while (calls < CALLS - 30) {
+            int ropes = m.count(1);
+            for (int i = ropes; i < 8; i++) {
+                int a = draws.nextInt(m.count(0));
+                int b = draws.nextInt(m.count(0));
+                int c = draws.nextInt(m.count(0));
+                same("lay " + a + " " + b + " " + c, () -> x.lay(a, b, c, 1), () -> m.lay(a, b, c, 1));
+            }
+            for (int i = draws.nextInt(4); i > 0; i--) {
+                int r = index(m.count(1));
+                int n = within(0, 999);
+                same("hang " + r + " " + n, () -> x.hang(r, n), () -> m.hang(r, n));
+            }
+            int n = 1 + draws.nextInt(2);
+            same("seasons " + n, () -> x.seasons(n), () -> m.seasons(n));
+            if (draws.nextInt(6) == 0) {
+                was();
+            }
+            askLog(index(m.count(0)), draws.nextBoolean());
+            for (int i = m.count(1); i > 0; i--) {
+                same("pick", () -> x.pick(0), () -> m.pick(0));
+            }
+        }
+        for (int i = 0; i < 10; i++) {
+            askLog(index(m.count(0)), draws.nextBoolean());
+        }
+    }
+
+    /** To the last SEASON but some, and through it. */
+    private void growOld() {
+        tell(fullWalk(false), true);
+        tell(Texts.law(draws), false);
+        for (int i = 0; i < 199; i++) {
+            same("50 seasons", () -> x.seasons(50), () -> m.seasons(50));
+        }
+        int rest = 40 + draws.nextInt(10);
+        same(rest + " seasons", () -> x.seasons(rest), () -> m.seasons(rest));
+        for (int i = 0; i < CALLS && calls < CALLS; i++) {
+            if (draws.nextInt(3) == 0) {
                 act();
             } else {
                 ask();

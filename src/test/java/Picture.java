@@ -1,6 +1,18 @@
 /** All that calls can tell of an object, so that two can be compared. What it asks goes on to use the object. */
 final class Picture {
 
+    /** What asks alone, or answers false and does nothing, in Scenes.busy. */
+    static final Bounds.Call[] ASKS = {
+        x -> x.end(-1), x -> x.end(8), x -> x.yarn(3, 5), x -> x.rope(2, 13), x -> x.order(1, 2),
+        x -> x.bears(0, 1, 2, 400), x -> x.best(5), x -> x.cheapest(1), x -> x.can(true), x -> x.can(false),
+        x -> x.most(true), x -> x.most(false), x -> x.cuts(0, true), x -> x.cuts(0, false), x -> x.walks(5),
+        x -> x.share(0, 2, 9999), x -> x.shared(0, 2, 9999), x -> x.oakum(16, 3, 0), x -> x.oakum(16, 3, 1),
+        x -> x.oakum(16, 3, 2), x -> x.holds(0, true), x -> x.holds(0, false), x -> x.would(0, 0), x -> x.would(0, 1),
+        x -> x.would(0, 2), YearRope::weakest, YearRope::fewest, x -> x.buys(9999), YearRope::skips, YearRope::loose,
+        x -> x.lasts(1), x -> x.trial(40, true), x -> x.trial(40, false), x -> x.span(40, true), x -> x.span(40, false),
+        x -> x.led(0, true), x -> x.led(0, false), x -> x.log(0, 4), x -> x.log(60, 4), x -> x.seed(x.seed(0)),
+        x -> x.count(8), x -> x.count(15)};
+
     /** A picture is to leave room for the calls that lead to it: an object is good for 512. */
     private static final int CALLS_MOST = 460;
 
@@ -33,6 +45,15 @@ final class Picture {
         Picture p = new Picture(x);
         p.stateNow();
         return p.done();
+    }
+
+    /** What all that asks answers. */
+    static String asked(YearRope x) {
+        StringBuilder answers = new StringBuilder();
+        for (Bounds.Call ask : ASKS) {
+            answers.append(Check.outcome(() -> ask.of(x))).append(' ');
+        }
+        return answers.toString();
     }
 
     /** fault(), and how long the TAPE is: by what a feed answers, which is taken back. */

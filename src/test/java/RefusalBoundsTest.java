@@ -141,21 +141,14 @@ public final class RefusalBoundsTest {
 
     /** What asks alone, or answers false, leaves all as it is. */
     private void asking() {
-        Bounds.Call[] asks = {x -> x.end(-1), x -> x.end(8), YearRope::fault, x -> x.yarn(3, 5), x -> x.rope(2, 13),
-            x -> x.order(1, 2), x -> x.bears(0, 1, 2, 400), x -> x.best(5), x -> x.cheapest(1), x -> x.can(true),
-            x -> x.can(false), x -> x.most(true), x -> x.most(false), x -> x.cuts(0, true), x -> x.cuts(0, false),
-            x -> x.walks(5), x -> x.share(0, 2, 9999), x -> x.shared(0, 2, 9999), x -> x.oakum(16, 3, 0),
-            x -> x.oakum(16, 3, 1), x -> x.oakum(16, 3, 2), x -> x.holds(0, true), x -> x.holds(0, false),
-            x -> x.would(0, 0), x -> x.would(0, 1), x -> x.would(0, 2), YearRope::weakest, YearRope::fewest,
-            x -> x.buys(9999), YearRope::skips, YearRope::loose, x -> x.lasts(1), x -> x.trial(40, true),
-            x -> x.trial(40, false), x -> x.span(40, true), x -> x.span(40, false), x -> x.led(0, true), x -> x.led(0, false),
-            x -> x.log(0, 4), x -> x.log(60, 4), x -> x.seed(x.seed(0)), x -> x.count(8), x -> x.count(15)};
+        Bounds.Call[] asks = Picture.ASKS;
         for (int i = 0; i < asks.length; i++) {
             Bounds.Call ask = asks[i];
             String answer = Check.outcome(() -> ask.of(Scenes.busy()));
             bounds.leaves(answer, "ask " + i, Scenes::busy, ask);
             check.due("ask " + i + " throws", false, () -> answer.startsWith("throws"));
         }
+        check.due("an ask of all there can be throws", false, () -> Picture.asked(Scenes.full()).contains("throws"));
         YearRope x = Scenes.busy();
         for (int i = 0; i < 2 * asks.length; i++) {
             // all in a row, and then once more the other way round

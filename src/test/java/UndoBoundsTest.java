@@ -176,6 +176,12 @@ public final class UndoBoundsTest {
                 return Picture.state(x);
             });
         }
+        for (String yarn : new String[] {"yarn 30 long 200 rot 0 reign 5", "yarn 1 long 200 rot 0 reign 5"}) {
+            Bounds.Scene more = Bounds.after(() -> kept(Scenes.busy()), x -> readThere(x, yarn + ";rope 0 2 4 long 3;"
+                    + "rope 2 0 4 long 2;order 1 long 1 pay 99;hang 3 9", true), YearRope::back, x -> x.end(0));
+            bounds.answers(Picture.asked(Bounds.after(Scenes::busy, x -> x.end(0)).make()), "what came since is in no answer",
+                    more, Picture::asked);
+        }
         Bounds.Scene lawless = Bounds.after(() -> kept(Scenes.oneRope()), x -> Check.law(x, "wear 5;bear 5"), YearRope::back);
         bounds.answers(-1, "no LAW: its LINES", lawless, x -> x.count(4));
         bounds.answers(1, "no LAW: WEARS by", lawless, x -> x.rope(0, 11));
