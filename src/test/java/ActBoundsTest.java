@@ -160,7 +160,7 @@ public final class ActBoundsTest {
         bounds.noState("1 hangs on it", () -> told("order 13 long 20 pay 5;hang 0 1"), x -> x.meet(0, 0));
         bounds.noState("a BROKEN one", Scenes::busy, x -> x.meet(1, 1));
         bounds.answers(0, "PAY 0", () -> told("order 13 long 20 pay 0"), x -> x.meet(0, 0));
-        Bounds.Scene orders = () -> told("order 1 long 1 pay 7;order 2 long 2 pay 8;order 3 long 3 pay 9");
+        Bounds.Scene orders = () -> told("order 1 long 6 pay 7;order 2 long 5 pay 8;order 3 long 4 pay 9");
         int[][] left = {{0, 2, 3}, {1, 1, 3}, {2, 1, 2}};
         for (int[] row : left) {
             bounds.answers(7 + row[0], "PAY of order " + row[0], orders, x -> x.meet(row[0], 0));

@@ -37,6 +37,11 @@ public final class ChooseBoundsTest {
         return x;
     }
 
+    /** Four yarns, all but the first of STRENGTH 5 and LENGTH 9, and an order LONG 9. */
+    private static YearRope firstShort(String first) {
+        return Check.shed(first + ";" + Scenes.lines("yarn 5 long 9 rot 0 reign 0", 3) + ";order 1 long 9 pay 0");
+    }
+
     private void trialRope() {
         check.sentence("A TRIAL ROPE of three YARNS: TAR, WEAR 0, not WHIPPED, PLIES 1, nothing hangs on it, LONG as told: "
                 + "what it BEARS.");
@@ -67,6 +72,9 @@ public final class ChooseBoundsTest {
         bounds.answers(123, "of two that bear most the first", () -> strengths(4, 5, 5, 5, 5), x -> x.best(9));
         bounds.answers(14, "first, second, fifth", () -> strengths(5, 5, 4, 4, 5), x -> x.best(9));
         bounds.answers(234, "the last three", () -> strengths(4, 4, 5, 5, 5), x -> x.best(9));
+        bounds.answers(13, "5 + 9 + 5", () -> strengths(5, 9, 4, 5), x -> x.best(9));
+        bounds.answers(123, "the first is too short", () -> firstShort("yarn 9 long 8 rot 0 reign 0"), x -> x.best(9));
+        bounds.answers(12, "the first is not", () -> firstShort("yarn 9 long 9 rot 0 reign 0"), x -> x.best(9));
         bounds.answers(-1, "two YARNS", () -> strengths(5, 5), x -> x.best(1));
         bounds.answers(-1, "no YARNS", Scenes::empty, x -> x.best(1));
         bounds.answers(12, "if all BEAR nothing, the first", () -> under("fail 99"), x -> x.best(1));
@@ -95,6 +103,13 @@ public final class ChooseBoundsTest {
         bounds.answers(123, "the least STRENGTH is the last", () -> ordered("order 1 long 1 pay 0", 5, 4, 4, 4),
                 x -> x.cheapest(0));
         bounds.answers(12, "the first of alike ones", () -> ordered("order 1 long 1 pay 0", 5, 4, 4, 5), x -> x.cheapest(0));
+        bounds.answers(23, "5 + 4 + 5", () -> ordered("order 1 long 1 pay 0", 5, 9, 4, 5), x -> x.cheapest(0));
+        bounds.answers(123, "the first is too short", () -> firstShort("yarn 1 long 8 rot 0 reign 0"), x -> x.cheapest(0));
+        bounds.answers(12, "the first is not", () -> firstShort("yarn 1 long 9 rot 0 reign 0"), x -> x.cheapest(0));
+        bounds.answers(12, "as LONG as the ORDER", Bounds.after(() -> ordered("order 18 long 9 pay 0", 5, 5, 5),
+                x -> Check.law(x, "bear 3 if long > 8 and long < 10")), x -> x.cheapest(0));
+        bounds.answers(-1, "no longer", Bounds.after(() -> ordered("order 18 long 9 pay 0", 5, 5, 5),
+                x -> Check.law(x, "bear 3 if long > 9")), x -> x.cheapest(0));
         bounds.answers(-1, "two YARNS", () -> ordered("order 1 long 1 pay 0", 5, 5), x -> x.cheapest(0));
         bounds.answers(12, "90, as much as can be", () -> ordered("order 90 long 1 pay 0", 30, 30, 30), x -> x.cheapest(0));
         bounds.answers(-1, "91", () -> ordered("order 91 long 1 pay 0", 30, 30, 30), x -> x.cheapest(0));

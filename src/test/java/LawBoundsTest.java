@@ -148,11 +148,15 @@ public final class LawBoundsTest {
 
     /** A fact is above one less and below one more than it is, and neither above nor below itself. */
     private void fact(String word, int n, Bounds.Scene scene) {
-        String law = "wear 1 if # > " + Math.max(n - 1, 0) + ";wear 2 if # < " + (n + 1) + ";wear 4 if # > " + n
-                + ";wear 8 if # < " + n;
+        String law = "% 1 if # > " + Math.max(n - 1, 0) + ";% 2 if # < " + (n + 1) + ";% 4 if # > " + n + ";% 8 if # < " + n;
+        String ofWord = law.replace("#", word);
+        int holds = n == 0 ? 2 : 3;
         YearRope x = scene.make();
-        Check.law(x, law.replace("#", word));
-        check.due(word + " is " + n, n == 0 ? 2 : 3, () -> x.rope(0, 11));
+        Check.law(x, "bear 50");
+        int bears = x.rope(0, 10);
+        Check.law(x, ofWord.replace("%", "wear") + ";bear 50;" + ofWord.replace("%", "bear"));
+        check.due(word + " is " + n, holds, () -> x.rope(0, 11));
+        check.due(word + " is " + n + " as it BEARS", bears == 0 ? 0 : bears + holds * x.rope(0, 7), () -> x.rope(0, 10));
     }
 
     private static YearRope laid(String reigns, String yarns) {
