@@ -42,12 +42,20 @@ final class Check {
 
     /** What is tried from here on is this sentence, which stands so in the document, and nowhere else in it. */
     void sentence(String quote) {
+        beginSentence(quote, Doc.places(Doc.TEXT, quote));
+    }
+
+    /** Likewise a sentence of LANGUAGE.md. */
+    void rule(String quote) {
+        beginSentence(quote, Doc.places(Doc.RULES, quote));
+    }
+
+    private void beginSentence(String quote, int places) {
         endSentence();
         sentence = quote;
         checkedAhead = checked;
-        int places = Doc.placesOf(quote);
         if (places != 1) {
-            blame("stands in the document " + places + " times");
+            blame("stands there " + places + " times");
         }
     }
 

@@ -70,9 +70,9 @@ public final class ModelTest {
         while (calls < CALLS - 30) {
             int ropes = m.count(1);
             for (int i = ropes; i < 8; i++) {
-                int a = draws.nextInt(m.count(0));
-                int b = draws.nextInt(m.count(0));
-                int c = draws.nextInt(m.count(0));
+                int a = index(m.count(0));
+                int b = index(m.count(0));
+                int c = index(m.count(0));
                 same("lay " + a + " " + b + " " + c, () -> x.lay(a, b, c, 1), () -> m.lay(a, b, c, 1));
             }
             for (int i = draws.nextInt(4); i > 0; i--) {
