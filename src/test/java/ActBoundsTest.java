@@ -9,6 +9,7 @@ public final class ActBoundsTest {
         test.laid();
         test.laidInPlaceOfAnother();
         test.tarred();
+        test.whipped();
         test.doubled();
         test.cut();
         test.hung();
@@ -35,7 +36,7 @@ public final class ActBoundsTest {
     }
 
     private void laid() {
-        check.sentence("a ROPE is LAID of three unlike YARNS (FATHOMS of each are gone from the shed);");
+        check.sentence("ACTS: a ROPE is LAID of three unlike YARNS (FATHOMS of each are gone from the shed);");
         bounds.answers(0, "30 of 40, 30 and 50", Scenes::three, x -> x.lay(0, 1, 2, 30));
         bounds.noState("31 of 40, 30 and 50", Scenes::three, x -> x.lay(0, 1, 2, 31));
         bounds.noState("31, the shortest first", Scenes::three, x -> x.lay(1, 2, 0, 31));
@@ -81,6 +82,23 @@ public final class ActBoundsTest {
             Check.walk(x, "tar 0 9");
             return x;
         }, x -> x.tar(0)), x -> x.rope(0, 5));
+    }
+
+    private void whipped() {
+        check.sentence("WHIPPED; DOUBLED: PLIES twice as many");
+        bounds.answers(1, "one that was not", Bounds.after(Scenes::oneRope, x -> x.whip(0)), x -> x.rope(0, 6));
+        bounds.answers(1, "one that was", Bounds.after(() -> told("whip 0"), x -> x.whip(0)), x -> x.rope(0, 6));
+        bounds.answers(0, "the one beside it", Bounds.after(() -> told("rope 0 1 2 long 3"), x -> x.whip(0)), x -> x.rope(1, 6));
+        Bounds.Scene all = Bounds.after(() -> {
+            YearRope x = worn(7);
+            Check.walk(x, "tar 0 4;hang 0 6");
+            return x;
+        }, x -> x.whip(0));
+        int[] asItWas = {0, 1, 2, 19, 4, 7, 1, 1, 0, 6};
+        for (int what = 0; what < asItWas.length; what++) {
+            int w = what;
+            bounds.answers(asItWas[w], "all else stays, what " + w, all, x -> x.rope(0, w));
+        }
     }
 
     private static YearRope ofLong(int fathoms, int doublings) {

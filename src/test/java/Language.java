@@ -434,6 +434,9 @@ final class Language extends TreePathScanner<Void, Void> {
         if (tree.getValue() instanceof String s && !s.chars().allMatch(c -> c >= 1 && c <= 127)) {
             found(4, tree, "a sign that is none of 1 to 127");
         }
+        if (tree.getKind() == Tree.Kind.NULL_LITERAL) {
+            found(7, tree, "null: a reference that may be none");
+        }
         return super.visitLiteral(tree, none);
     }
 

@@ -147,6 +147,10 @@ public final class LanguageTest {
         breaks(3, "private Object any() { return null; }");
         breaks(3, "private void take(Long n) { }");
         breaks(3, "private java.util.Map<Integer, Integer> map;");
+        check.rule("On doubles and floats only + - * /, comparisons and casts, none of which may answer NaN");
+        keeps(3);
+        breaks(3, "private float half(float n) { return n / 2; }");
+        breaks(4, "private int root(int n) { return Math.sqrt(n) > 1 ? 1 : 0; }");
     }
 
     private void library() throws IOException {
@@ -190,6 +194,12 @@ public final class LanguageTest {
         breaks(6, "public int go() { throw new IllegalStateException(); }");
         breaks(6, "public int go() { return deep(); } private int deep() { throw new IllegalStateException(); }");
         breaks(6, "public int go() throws IllegalStateException { return 1; }");
+        check.rule("a catch leaves the exception itself alone (no getMessage, no rethrow). No finally, no try with resources, no "
+                + "exception classes of your own,");
+        keeps(6);
+        breaks(6, "private void go() { try { fault(); } finally { fault(); } }");
+        breaks(6, "private void go() { try { fault(); } catch (RuntimeException e) { fault(); } }");
+        breaks(2, "private static final class Bad extends RuntimeException { }");
         check.rule("no throw in a constructor. No synchronized, assert, switch with patterns,");
         keeps(6);
         breaksInPart(6, "Part(int n) { throw new IllegalStateException(); }");
@@ -281,6 +291,15 @@ public final class LanguageTest {
         breaks(7, "private int go(int n) { return 9 % n; }");
         breaks(7, "private int go(int n) { int m = 9; m /= n; return m; }");
         breaks(7, "private int go() { return 9 / 0; }");
+        check.rule("a reference against null before it is used, a list's size before get and remove.");
+        keeps(7);
+        breaks(7, "private Part none() { return null; }");
+        breaks(3, "private java.util.List<Part> parts;");
+        callsThrowWhatIsTold();
+    }
+
+    private void callsThrowWhatIsTold() {
+        check.rule("or fail to end, for any arguments in any state:");
         for (int run = 0; run < OBJECTS; run++) {
             Random draws = new Random(run);
             YearRope x = begun(run);

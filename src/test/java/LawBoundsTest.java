@@ -105,7 +105,9 @@ public final class LawBoundsTest {
             bounds.answers(0, "not " + word, () -> whippedInWinter("not " + word), x -> x.rope(0, 11));
             holds("not " + word);
         }
-        check.sentence("SUM < SUM | SUM > SUM. SUM: PART { + PART }; PART: NUMBER | weak |");
+        check.sentence("SUM < SUM | SUM > SUM. SUM: PART { + PART }; PART: NUMBER | weak | strong |");
+        holds("weak + 5 < strong + 1");
+        failsToHold("weak + 5 < strong");
         holds("12 < 13");
         failsToHold("13 < 13");
         failsToHold("13 > 13");
@@ -166,7 +168,7 @@ public final class LawBoundsTest {
     }
 
     private void factsOfItsYarns() {
-        check.sentence("weak, strong: the least, the greatest STRENGTH of its YARNS; rot: ROT of all three together;");
+        check.sentence("Of a ROPE: weak, strong: the least, the greatest STRENGTH of its YARNS; rot: ROT of all three together;");
         for (String yarns : new String[] {"0 1 2", "1 2 0", "2 0 1", "2 1 0"}) {
             fact("weak", 3, () -> laid("0 1 2", yarns));
             fact("strong", 8, () -> laid("0 1 2", yarns));
@@ -249,7 +251,7 @@ public final class LawBoundsTest {
     }
 
     private void bearing() {
-        check.sentence("the sum of N of all bear LINES that hold less that of all fail LINES, less WEAR by 10, "
+        check.sentence("and the sum of N of all bear LINES that hold less that of all fail LINES, less WEAR by 10, "
                 + "rounded down (0 at least), times PLIES;");
         bounds.answers(13 + 12 - 3, "7 + 5 - 3", () -> under("bear 7;bear 5;fail 3;bear 9 if winter;fail 9 if winter"),
                 x -> x.rope(0, 10));

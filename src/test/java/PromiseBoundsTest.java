@@ -405,6 +405,21 @@ public final class PromiseBoundsTest {
     }
 
     private void counting() {
+        check.sentence("0 YARNS, 1 ROPES, 2 ORDERS, 3 texts of THE WALK,");
+        String[] texts = {"", Scenes.THREE, "rope 0 1 2 long 1", "order 1 long 1 pay 1"};
+        YearRope told = Scenes.empty();
+        for (int text = 0; text < texts.length; text++) {
+            Check.walk(told, texts[text]);
+            int[] counts = {text >= 1 ? 3 : 0, text >= 2 ? 1 : 0, text >= 3 ? 1 : 0, text + 1};
+            for (int what = 0; what < counts.length; what++) {
+                int w = what;
+                check.due("count " + w + " behind " + (text + 1) + " texts", counts[w], () -> told.count(w));
+            }
+        }
+        check.sentence("5 SEASON, 6 GALE, 7 DAMP, 8 LOADS");
+        bounds.leaves(3, "three SEASONS", Bounds.after(Scenes::oneRope, x -> x.seasons(3)), x -> x.count(5));
+        bounds.leaves(7, "GALE 7", () -> Check.shed("damp 5;gale 7"), x -> x.count(6));
+        bounds.leaves(5, "DAMP 5", () -> Check.shed("damp 5;gale 7"), x -> x.count(7));
         check.sentence("4 LINES of THE LAW (NONE without one), 5 SEASON,");
         bounds.leaves(-1, "without one", Scenes::oneRope, x -> x.count(4));
         bounds.leaves(0, "an empty one", Bounds.after(Scenes::oneRope, x -> Check.law(x, "")), x -> x.count(4));
@@ -422,7 +437,7 @@ public final class PromiseBoundsTest {
     }
 
     private void lastCall() {
-        check.sentence("An object is used for at most 512 calls after it has been made;");
+        check.sentence("An object is used for at most 512 calls after it has been made; what later calls answer is free.");
         YearRope x = new YearRope();
         for (int call = 1; call < 512; call++) {
             x.seed(call);

@@ -46,7 +46,7 @@ public final class SeasonBoundsTest {
     }
 
     private void gales() {
-        check.sentence("a GALE, if DRAW modulo 100 is below GALE.");
+        check.sentence("A SEASON more: a GALE, if DRAW modulo 100 is below GALE.");
         for (int seed : SEEDS) {
             int draw = drawModulo100(seed);
             bounds.answers(0, "SEED " + seed + ", GALE as the DRAW", () -> seeded(seed, "hang 0 7;gale " + draw),

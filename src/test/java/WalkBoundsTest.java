@@ -107,6 +107,8 @@ public final class WalkBoundsTest {
     }
 
     private void fathoms() {
+        check.sentence("(N of yarn: STRENGTH;");
+        bounds.rightWalk(Scenes::empty, "yarn 7 long 6 rot 5 reign 4", 7, x -> x.yarn(0, 0));
         check.sentence("rope: FATHOMS of each of three unlike YARNS, 1 to 200, no more than each has: else that N is wrong");
         Bounds.Scene longest = () -> Check.shed(Scenes.lines("yarn 9 long 200 rot 0 reign 0", 3));
         bounds.walkNumber(longest, "rope 0 1 2 long #", 1, 200, x -> x.rope(0, 3));
